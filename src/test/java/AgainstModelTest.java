@@ -8,7 +8,7 @@ import java.util.List;
 /** Long runs of calls, ordinary, edgy and wrong ones, on the class and on the model side by side. */
 public final class AgainstModelTest {
     private static final int RUNS = 500;
-    private static final int CALLS = 512;
+    private static final int CALLS = 480;
     private static final int[] WILD = {
         Integer.MIN_VALUE, Integer.MIN_VALUE + 1, -1000000001, -52, -2, -1, 0, 1, 7, 41, 61, 101, 201, 1000,
         10000, 100000, Integer.MAX_VALUE - 1, Integer.MAX_VALUE
@@ -19,7 +19,11 @@ public final class AgainstModelTest {
         "9999", "10000", "99999999999999999999", "007", "beards", "B", "\t", "\n", "-1", ".", "\u00ff", "\u0000", ""
     };
 
+    /** What a run in which much is hired for long leaves out most times. */
+    private static final List<String> LETTING_GO = List.of("back", "undo", "tear", "wipe");
+
     private long seed;
+    private boolean isRich;
 
     private AgainstModelTest(long seed) {
         this.seed = seed;
@@ -147,14 +151,40 @@ public final class AgainstModelTest {
         return ((Number) method.invoke(x, boxed)).longValue();
     }
 
+    /** Fills the shop first, so that more of the calls find something to ask of. */
+    private void enrich(BeardHire x, Model m, Model asker, List<String> made) {
+        for (int i = 0; i < 6; i++) {
+            int purse = between(200, 9999);
+            int kind = below(6);
+            for (Model one : new Model[] {m, asker}) {
+                one.call("wearer", purse);
+                one.call("beard", kind);
+                one.call("hire", i, i);
+                one.call("sheet", i, 16, 6);
+            }
+            x.wearer(purse);
+            x.beard(kind);
+            x.hire(i, i);
+            x.sheet(i, 16, 6);
+            made.add("wearer(" + purse + "), beard(" + kind + "), hire(" + i + ", " + i + "), sheet(" + i + ", 16, 6)");
+        }
+    }
+
     /** Says what is wrong, or null. */
     private String run(Method[] methods) throws ReflectiveOperationException {
         BeardHire x = new BeardHire();
         Model asker = new Model();
         Model m = new Model();
         List<String> made = new ArrayList<>();
+        isRich = oneIn(2);
+        if (isRich) {
+            enrich(x, m, asker, made);
+        }
         for (int call = 0; call < CALLS; call++) {
             Method method = methods[below(methods.length)];
+            if (isRich && LETTING_GO.contains(method.getName()) && !oneIn(10)) {
+                continue;
+            }
             String name = method.getName();
             if (name.equals("shop") && oneIn(2)) {
                 String text = aText();
