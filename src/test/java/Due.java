@@ -28,10 +28,15 @@ final class Due {
         }
     }
 
-    /** Feeds a text byte by byte, of which each character is one (0 to 255). */
+    /** Feeds a text, of which each character is a byte (0 to 255), in few calls: an object has 512. */
     static void feed(BeardHire x, String text) {
-        for (int i = 0; i < text.length(); i++) {
-            x.feed(text.charAt(i), 1);
+        for (int i = 0; i < text.length(); i += 4) {
+            int bytes = 0;
+            int n = Math.min(4, text.length() - i);
+            for (int b = 0; b < n; b++) {
+                bytes = bytes << 8 | text.charAt(i + b);
+            }
+            x.feed(bytes, n);
         }
     }
 
